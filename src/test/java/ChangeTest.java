@@ -1,0 +1,264 @@
+/** Promises 42 to 45, 47 and 48: changes, and how they are undone. */
+public final class ChangeTest {
+    private static final String TEXT = "set capacity 10;set move 30;location a 100 in;location b 50 out;"
+        + "actor p 40;actor q 20;"
+        + "scene a 4 p;scene a 4 night q;scene b 6 p q;scene b 5 q;scene a 3 p q;scene a 10;scene a 11;scene b 4 night p;";
+
+    public static void main(String[] args) {
+        put();
+        putWhereItIs();
+        wrongPuts();
+        take();
+        exchange();
+        exchangeOfAFreeDay();
+        exchangeInsideATurnaround();
+        fill();
+        fillOfNothing();
+        fillKeepsTheRest();
+        setSetting();
+        wrongSettings();
+        capacityOfDays();
+        undo();
+        twelveChanges();
+        errorsAreNoChanges();
+        Check.end();
+    }
+
+    private static void put() {
+        FilmSchedule film = Check.film(TEXT);
+        Check.due("42: put(0, 3)", film.put(0, 3), 140);
+        Check.due("42: dayOf", film.dayOf(0), 3);
+        Check.due("42: put(2, 11)", film.put(2, 11), 140 + 110 + 30);
+        Check.due("42: moved", film.put(0, 10), 280);
+        Check.due("42: the old day is free", film.scenesOn(3), 0);
+        Check.due("42: undoCount()", film.undoCount(), 3);
+    }
+
+    private static void putWhereItIs() {
+        FilmSchedule film = Check.film(TEXT + "day 3 5;");
+        Check.due("42: where it is", film.put(5, 3), 100);
+        Check.due("42: is a change", film.undoCount(), 1);
+        Check.due("42: dayOf", film.dayOf(5), 3);
+        Check.due("48: undo()", film.undo(), 0);
+        Check.due("48: dayOf", film.dayOf(5), 3);
+    }
+
+    private static void wrongPuts() {
+        FilmSchedule film = Check.film(TEXT + "day 3 0;");
+        for (int wrong : new int[] {-1, 8, Integer.MIN_VALUE, Integer.MAX_VALUE}) {
+            Check.due("42: scene " + wrong, film.put(wrong, 0), FilmSchedule.NOT_FOUND);
+            Check.due("42: scene first", film.put(wrong, 12), FilmSchedule.NOT_FOUND);
+        }
+        for (int wrong : new int[] {-1, 12, Integer.MIN_VALUE, Integer.MAX_VALUE}) {
+            Check.due("42: day " + wrong, film.put(0, wrong), FilmSchedule.BAD_VALUE);
+            Check.due("42: day before what is possible", film.put(6, wrong), FilmSchedule.BAD_VALUE);
+        }
+        Check.due("42: another location", film.put(2, 3), FilmSchedule.IMPOSSIBLE);
+        Check.due("42: another time", film.put(1, 3), FilmSchedule.IMPOSSIBLE);
+        Check.due("42: too long", film.put(5, 3), FilmSchedule.IMPOSSIBLE);
+        Check.due("42: a turnaround", film.put(7, 2), FilmSchedule.IMPOSSIBLE);
+        Check.due("42: changes nothing", film.scenesOn(3), 1);
+        Check.due("42: changes nothing", film.undoCount(), 0);
+        Check.due("42: cost()", film.cost(), 140);
+    }
+
+    private static void take() {
+        FilmSchedule film = Check.film(TEXT + "day 3 0 4;day 5 2;");
+        Check.due("28: cost()", film.cost(), 60 + 60 + 20 + 10 + 150 + 30);
+        Check.due("43: take(4)", film.take(4), 40 + 60 + 20 + 150 + 30);
+        Check.due("43: dayOf", film.dayOf(4), FilmSchedule.NOT_FOUND);
+        Check.due("43: twice", film.take(4), FilmSchedule.NOT_FOUND);
+        Check.due("43: take(0)", film.take(0), 110);
+        Check.due("43: never scheduled", film.take(7), FilmSchedule.NOT_FOUND);
+        for (int wrong : new int[] {-1, 8, 13, 14, Integer.MIN_VALUE, Integer.MAX_VALUE}) {
+            Check.due("43: scene " + wrong, film.take(wrong), FilmSchedule.NOT_FOUND);
+        }
+        Check.due("43: undoCount()", film.undoCount(), 2);
+    }
+
+    private static void exchange() {
+        FilmSchedule film = Check.film(TEXT + "day 0 0 4;day 1 2;day 2 5;");
+        Check.due("28: cost()", film.cost(), 120 + 250 + 60);
+        Check.due("44: exchange(1, 2)", film.exchange(1, 2), 120 + 30 + 250 + 30);
+        Check.due("44: scenesOn", film.scenesOn(1), 32);
+        Check.due("44: scenesOn", film.scenesOn(2), 4);
+        Check.due("44: exchange(2, 0)", film.exchange(2, 0), 430);
+        Check.due("44: scenesOn", film.scenesOn(2), 17);
+        Check.due("44: the same day", film.exchange(2, 2), 430);
+        Check.due("44: undoCount()", film.undoCount(), 3);
+        for (int wrong : new int[] {-1, 12, Integer.MIN_VALUE, Integer.MAX_VALUE}) {
+            Check.due("44: one " + wrong, film.exchange(wrong, 0), FilmSchedule.BAD_VALUE);
+            Check.due("44: other " + wrong, film.exchange(0, wrong), FilmSchedule.BAD_VALUE);
+        }
+        Check.due("44: undoCount()", film.undoCount(), 3);
+    }
+
+    private static void exchangeOfAFreeDay() {
+        FilmSchedule film = Check.film(TEXT + "day 0 0 4;");
+        Check.due("44: with a free day", film.exchange(0, 11), 160);
+        Check.due("44: dayOf", film.dayOf(4), 11);
+        Check.due("44: two free days", film.exchange(0, 1), 160);
+        Check.due("44: dayOf a scene without a day", film.dayOf(1), FilmSchedule.NOT_FOUND);
+        Check.due("44: undoCount()", film.undoCount(), 2);
+    }
+
+    private static void exchangeInsideATurnaround() {
+        FilmSchedule film = Check.film(TEXT + "day 0 2;day 1 1;day 3 5;");
+        int cost = film.cost();
+        Check.due("44: day and night", film.exchange(0, 1), FilmSchedule.IMPOSSIBLE);
+        Check.due("44: a night far before", film.exchange(0, 2), FilmSchedule.IMPOSSIBLE);
+        Check.due("44: another cast", film.exchange(2, 3), cost);
+        Check.due("44: a day between them", film.exchange(0, 3), cost + 10);
+        Check.due("44: undoCount()", film.undoCount(), 2);
+        film = Check.film(TEXT + "day 0 2;day 1 1;day 3 5;");
+        film.exchange(0, 1);
+        Check.due("44: changes nothing", film.scenesOn(0), 4);
+        Check.due("44: changes nothing", film.undoCount(), 0);
+        Check.due("44: changes nothing", film.cost(), cost);
+    }
+
+    private static void fill() {
+        FilmSchedule film = Check.film(TEXT);
+        Check.due("45: fill()", film.fill(), 7);
+        // 0 on 0; 1 at night on 1; 2 not behind 1 (q), on 3; 3 too long for 3, on 4; 4 with 0; 5 on 2; 6 never; 7 on 5
+        int[] days = {0, 1, 3, 4, 0, 2, -1, 5};
+        for (int scene = 0; scene < 8; scene++) {
+            Check.due("45: dayOf " + scene, film.dayOf(scene), days[scene]);
+        }
+        Check.due("45: is one change", film.undoCount(), 1);
+        Check.due("48: undo()", film.undo(), 0);
+        Check.due("48: span()", film.span(), 0);
+    }
+
+    private static void fillOfNothing() {
+        FilmSchedule film = Check.film(TEXT);
+        film.fill();
+        int cost = film.cost();
+        Check.due("45: only the scene that never can", film.fill(), 0);
+        Check.due("45: is no change", film.undoCount(), 1);
+        Check.due("45: cost()", film.cost(), cost);
+        Check.due("45: no scenes", new FilmSchedule().fill(), 0);
+    }
+
+    private static void fillKeepsTheRest() {
+        FilmSchedule film = Check.film(TEXT + "day 6 0;day 0 3;");
+        Check.due("45: fill()", film.fill(), 5);
+        Check.due("45: stays", film.dayOf(0), 6);
+        Check.due("45: stays", film.dayOf(3), 0);
+        Check.due("45: night behind day", film.dayOf(1), 1);
+        Check.due("45: a location of its own day", film.dayOf(2), 3);
+        Check.due("45: lowest day", film.dayOf(4), 4);
+        Check.due("45: a whole day", film.dayOf(5), 2);
+        Check.due("45: not before a day of its cast", film.dayOf(7), 7);
+    }
+
+    private static void setSetting() {
+        FilmSchedule film = Check.film(TEXT);
+        int[] least = {1, 0, 0, 1};
+        int[] most = {99, 9999, 100, 12};
+        int[] previous = {10, 30, 50, 4};
+        for (int setting = 0; setting < 4; setting++) {
+            Check.due("47: previous " + setting, film.setSetting(setting, least[setting]), previous[setting]);
+            Check.due("47: getSetting " + setting, film.getSetting(setting), least[setting]);
+            Check.due("47: least " + setting, film.setSetting(setting, most[setting]), least[setting]);
+            Check.due("47: the same value " + setting, film.setSetting(setting, most[setting]), most[setting]);
+            Check.due("47: getSetting " + setting, film.getSetting(setting), most[setting]);
+            Check.due("47: changes", film.undoCount(), 3 * setting + 3);
+        }
+    }
+
+    private static void wrongSettings() {
+        FilmSchedule film = Check.film(TEXT + "day 0 5;");
+        int[] least = {1, 0, 0, 1};
+        int[] most = {99, 9999, 100, 12};
+        for (int setting = 0; setting < 4; setting++) {
+            for (int wrong : new int[] {least[setting] - 1, most[setting] + 1, Integer.MIN_VALUE, Integer.MAX_VALUE}) {
+                Check.due("47: " + setting + ", " + wrong, film.setSetting(setting, wrong), FilmSchedule.BAD_VALUE);
+            }
+        }
+        for (int wrong : new int[] {-1, 4, Integer.MIN_VALUE, Integer.MAX_VALUE}) {
+            Check.due("47: setting " + wrong, film.setSetting(wrong, 5), FilmSchedule.BAD_VALUE);
+        }
+        Check.due("47: changes nothing", film.undoCount(), 0);
+        Check.due("47: changes nothing", film.getSetting(0), 10);
+    }
+
+    private static void capacityOfDays() {
+        FilmSchedule film = Check.film(TEXT + "day 0 0 4;day 11 2;");
+        Check.due("47: a day of 7", film.setSetting(FilmSchedule.CAPACITY, 6), FilmSchedule.IMPOSSIBLE);
+        Check.due("47: capacity stays", film.getSetting(FilmSchedule.CAPACITY), 10);
+        Check.due("47: a day of 7", film.setSetting(FilmSchedule.CAPACITY, 7), 10);
+        Check.due("47: others are free of it", film.setSetting(FilmSchedule.DROP, 6), 4);
+        Check.due("47: others are free of it", film.setSetting(FilmSchedule.MOVE, 6), 30);
+        film.take(0);
+        Check.due("47: a day of 6", film.setSetting(FilmSchedule.CAPACITY, 5), FilmSchedule.IMPOSSIBLE);
+        Check.due("47: a day of 6", film.setSetting(FilmSchedule.CAPACITY, 6), 7);
+        Check.due("30: capacity counts", film.reasonFor(0, 0), 3);
+        Check.due("48: undo()", film.undo(), 4);
+        Check.due("48: capacity", film.getSetting(FilmSchedule.CAPACITY), 7);
+        Check.due("30: capacity counts", film.reasonFor(0, 0), 0);
+    }
+
+    private static void undo() {
+        FilmSchedule film = Check.film(TEXT + "day 0 0 4;day 3 2;");
+        int cost = film.cost();
+        film.put(1, 7);
+        film.setSetting(FilmSchedule.HOLD, 3);
+        film.exchange(0, 3);
+        film.take(2);
+        film.fill();
+        Check.due("8: undoCount()", film.undoCount(), 5);
+        Check.due("48: fill", film.undo(), 4);
+        Check.due("48: fill", film.dayOf(2), FilmSchedule.NOT_FOUND);
+        Check.due("48: take", film.undo(), 3);
+        Check.due("48: take", film.dayOf(2), 0);
+        Check.due("48: exchange", film.undo(), 2);
+        Check.due("48: exchange", film.dayOf(2), 3);
+        Check.due("48: exchange", film.dayOf(4), 0);
+        Check.due("48: setSetting", film.undo(), 1);
+        Check.due("48: setSetting", film.getSetting(FilmSchedule.HOLD), 50);
+        Check.due("48: put", film.undo(), 0);
+        Check.due("48: put", film.dayOf(1), FilmSchedule.NOT_FOUND);
+        Check.due("48: cost()", film.cost(), cost);
+        Check.due("48: none", film.undo(), FilmSchedule.NOT_FOUND);
+        Check.due("48: changes nothing", film.cost(), cost);
+        Check.due("8: undoCount()", film.undoCount(), 0);
+    }
+
+    private static void twelveChanges() {
+        FilmSchedule film = Check.film(TEXT);
+        for (int change = 1; change <= 20; change++) {
+            film.setSetting(FilmSchedule.MOVE, 100 + change);
+            Check.due("8: undoCount()", film.undoCount(), Math.min(12, change));
+        }
+        for (int left = 11; left >= 0; left--) {
+            Check.due("48: undo()", film.undo(), left);
+            Check.due("48: move", film.getSetting(FilmSchedule.MOVE), 108 + left);
+        }
+        Check.due("48: the older ones are not kept", film.undo(), FilmSchedule.NOT_FOUND);
+        Check.due("48: move", film.getSetting(FilmSchedule.MOVE), 108);
+        film.put(0, 0);
+        Check.due("8: again", film.undoCount(), 1);
+        Check.due("48: again", film.undo(), 0);
+    }
+
+    private static void errorsAreNoChanges() {
+        FilmSchedule film = Check.film(TEXT + "day 0 0;");
+        for (int change = 0; change < 12; change++) {
+            film.setSetting(FilmSchedule.MOVE, 200 + change);
+        }
+        film.put(9, 0);
+        film.put(0, 12);
+        film.put(2, 0);
+        film.take(5);
+        film.exchange(0, 12);
+        film.setSetting(FilmSchedule.CAPACITY, 3);
+        film.setSetting(FilmSchedule.CAPACITY, 0);
+        film.load(1);
+        Check.load(film, "?");
+        for (int left = 11; left >= 0; left--) {
+            Check.due("48: undo()", film.undo(), left);
+        }
+        Check.due("48: all are undone", film.getSetting(FilmSchedule.MOVE), 30);
+    }
+}

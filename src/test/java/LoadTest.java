@@ -1,0 +1,370 @@
+import java.util.Arrays;
+
+/** Promises 2 to 4: feed, load with the text format, errorPosition. */
+public final class LoadTest {
+    private static final int SYNTAX = FilmSchedule.SYNTAX_ERROR, RANGE = FilmSchedule.RANGE_ERROR,
+        NAME = FilmSchedule.NAME_ERROR, DUPLICATE = FilmSchedule.DUPLICATE_ERROR, ORDER = FilmSchedule.ORDER_ERROR,
+        STATE = FilmSchedule.STATE_ERROR, COUNT = FilmSchedule.COUNT_ERROR;
+    private static final String CAST = "location a 1 in;location b 2 out;actor p 1;actor q 2;";
+
+    public static void main(String[] args) {
+        feed();
+        feedIsFull();
+        bytesOfAFeed();
+        lengthOfLoad();
+        statements();
+        tokens();
+        syntaxErrors();
+        namesThatAreNone();
+        rangeErrors();
+        nameErrors();
+        duplicateErrors();
+        orderErrors();
+        stateErrors();
+        countErrors();
+        firstErrorCounts();
+        failureLeavesAllButTheBuffer();
+        successReplacesAll();
+        errorPosition();
+        Check.end();
+    }
+
+    private static void feed() {
+        FilmSchedule film = new FilmSchedule();
+        Check.due("2: first feed", film.feed(0, 0, 0, 0, 0), 20);
+        Check.due("2: second feed", film.feed(-1, -1, -1, -1, -1), 40);
+    }
+
+    private static void feedIsFull() {
+        FilmSchedule film = new FilmSchedule();
+        int spaces = 0x20202020;
+        for (int feeds = 1; feeds <= 45; feeds++) {
+            Check.due("2: feed " + feeds, film.feed(spaces, spaces, spaces, spaces, spaces), 20 * feeds);
+        }
+        Check.due("2: feed 46", film.feed(-1, -1, -1, -1, -1), FilmSchedule.FULL);
+        Check.due("2: feed 47", film.feed(-1, -1, -1, -1, -1), FilmSchedule.FULL);
+        Check.due("3: load(901)", film.load(901), FilmSchedule.BAD_VALUE);
+        Check.due("3: load(900) of spaces", film.load(900), 0);
+        Check.due("2: feed after load", film.feed(0, 0, 0, 0, 0), 20);
+    }
+
+    private static void bytesOfAFeed() {
+        FilmSchedule film = new FilmSchedule();
+        film.feed(0x6c6f6361, 0x74696f6e, 0x20612037, 0x3820696e, 0x3b202020);
+        Check.due("2: location a 78 in;", film.load(20), 1);
+        Check.due("2: rate", film.locationProperty(0, 0), 78);
+        for (int place = 0; place < 20; place++) {
+            int[] words = {0x20202020, 0x20202020, 0x20202020, 0x20202020, 0x20202020};
+            words[place / 4] ^= 0xa0 << 24 - place % 4 * 8;
+            film.feed(words[0], words[1], words[2], words[3], words[4]);
+            Check.due("2: a byte 128 at " + place, film.load(20), SYNTAX);
+            Check.due("4: a byte 128 at " + place, film.errorPosition(), place);
+        }
+    }
+
+    private static void lengthOfLoad() {
+        FilmSchedule film = new FilmSchedule();
+        Check.feedText(film, "actor p 1;actor p 1;");
+        Check.due("3: load(-1)", film.load(-1), FilmSchedule.BAD_VALUE);
+        Check.due("3: load(21)", film.load(21), FilmSchedule.BAD_VALUE);
+        Check.due("3: load(max)", film.load(Integer.MAX_VALUE), FilmSchedule.BAD_VALUE);
+        Check.due("3: load(min)", film.load(Integer.MIN_VALUE), FilmSchedule.BAD_VALUE);
+        Check.due("3: load(10) reads no more", film.load(10), 1);
+        Check.due("3: the buffer is empty then", film.load(1), FilmSchedule.BAD_VALUE);
+        Check.due("3: load(0)", film.load(0), 0);
+        Check.due("3: load(0) replaces the production", film.actorCount(), 0);
+    }
+
+    private static void statements() {
+        fine("", 0);
+        fine(" \n ", 0);
+        fine("location a 0 in;", 1);
+        fine("location a 9999 out;actor b 0;actor c 9999;", 3);
+        fine("set capacity 1;set move 0;set hold 0;set drop 1;", 4);
+        fine("set drop 12;set hold 100;set move 9999;set capacity 99;", 4);
+        fine(CAST + "scene a 1;scene b 60 night;scene a 5 p;scene a 5 q p;scene b 3 night p q;", 9);
+        fine(CAST + "scene a 3;scene a 4 p;scene b 5;day 0 1 0;day 11 2;", 9);
+        fine(CAST + "scene a 3;scene a 4 p;day 0 1;day 0 0;", 8);
+        fine(CAST + "scene a 3;day 0 0;actor r 1;scene a 4 r;location c 1 in;scene c 1;day 0 1;day 1 2;", 12);
+        fine("actor p 1;set move 3;location a 1 in;set hold 3;scene a 1;set drop 3;", 6);
+    }
+
+    private static void tokens() {
+        FilmSchedule film = fine("location\nabc  0007in;\n actor\n\nz99;scene abc 09night z;day 0 00;", 4);
+        Check.due("3: rate", film.locationProperty(0, 0), 7);
+        Check.due("3: fee", film.feeOf(0), 99);
+        Check.due("3: length", film.sceneProperty(0, 1), 9);
+        Check.due("3: night", film.sceneProperty(0, 2), 1);
+        film = fine("set move 00000000000000000000000000000000000000000000000000000000000000000000009998;", 1);
+        Check.due("3: many zeros", film.getSetting(FilmSchedule.MOVE), 9998);
+    }
+
+    private static void syntaxErrors() {
+        fault("", ";", SYNTAX);
+        fault("", "x;", SYNTAX);
+        fault("", "7;", SYNTAX);
+        fault("", "night;", SYNTAX);
+        fault("", "capacity 3;", SYNTAX);
+        fault("", "locations a 1 in;", SYNTAX);
+        fault("", "Location a 1 in;", SYNTAX);
+        fault("", "\tactor p 1;", SYNTAX);
+        fault("", "\ractor p 1;", SYNTAX);
+        fault("location", "", SYNTAX);
+        fault("location a", "", SYNTAX);
+        fault("location a 1", "", SYNTAX);
+        fault("location a 1 in", "", SYNTAX);
+        fault("location a 1 in \n ", "", SYNTAX);
+        fault("location a 1 in;", ";", SYNTAX);
+        fault("location ", "1 in;", SYNTAX);
+        fault("location ", ";", SYNTAX);
+        fault("location ", "A 1 in;", SYNTAX);
+        fault("location a", "B 1 in;", SYNTAX);
+        fault("location a ", "in;", SYNTAX);
+        fault("location a ", "-1 in;", SYNTAX);
+        fault("location a 1 ", ";", SYNTAX);
+        fault("location a 1 ", "x;", SYNTAX);
+        fault("location a 1 ", "inn;", SYNTAX);
+        fault("location a 1 ", "night;", SYNTAX);
+        fault("location a 1 in ", "out;", SYNTAX);
+        fault("location a 1 in", ",", SYNTAX);
+        fault("actor ", "1;", SYNTAX);
+        fault("actor p", ";", SYNTAX);
+        fault("actor p ", "q;", SYNTAX);
+        fault("actor p 1 ", "2;", SYNTAX);
+        fault("actor p 1 ", "in;", SYNTAX);
+        fault(CAST + "scene ", ";", SYNTAX);
+        fault(CAST + "scene ", "4 a;", SYNTAX);
+        fault(CAST + "scene ", "night;", SYNTAX);
+        fault(CAST + "scene ", "abcdefg 1;", SYNTAX);
+        fault(CAST + "scene a ", "p;", SYNTAX);
+        fault(CAST + "scene a ", ";", SYNTAX);
+        fault(CAST + "scene a ", "night 4;", SYNTAX);
+        fault(CAST + "scene a 4 ", "4;", SYNTAX);
+        fault(CAST + "scene a 4 night ", "night;", SYNTAX);
+        fault(CAST + "scene a 4 p ", "night;", SYNTAX);
+        fault(CAST + "scene a 4 p ", "day 0 0;", SYNTAX);
+        fault(CAST + "scene a 4 p ", "abcdefg;", SYNTAX);
+        fault(CAST + "scene a 4 p q", "", SYNTAX);
+        fault("set ", "capacit 3;", SYNTAX);
+        fault("set ", "p 3;", SYNTAX);
+        fault("set ", "3;", SYNTAX);
+        fault("set ", ";", SYNTAX);
+        fault("set", "", SYNTAX);
+        fault("set move ", "x;", SYNTAX);
+        fault("set move ", ";", SYNTAX);
+        fault("set move 3 ", "3;", SYNTAX);
+        fault(CAST + "scene a 1;day ", ";", SYNTAX);
+        fault(CAST + "scene a 1;day ", "a 0;", SYNTAX);
+        fault(CAST + "scene a 1;day 0", ";", SYNTAX);
+        fault(CAST + "scene a 1;day 0 ", "a;", SYNTAX);
+        fault(CAST + "scene a 1;day 0 0 ", "a;", SYNTAX);
+        fault(CAST + "scene a 1;day 0 0", "", SYNTAX);
+        fault("actor p 1", "" + (char) 0, SYNTAX);
+        fault("actor p 1", "" + (char) 233, SYNTAX);
+        fault("actor p 1", "`", SYNTAX);
+        fault("actor p 1", "{", SYNTAX);
+        fault("actor p 1", "/", SYNTAX);
+        fault("actor p 1", ":", SYNTAX);
+    }
+
+    private static void namesThatAreNone() {
+        String[] words = {"location", "actor", "scene", "set", "day", "in", "out", "night", "capacity", "move", "hold",
+            "drop", "abcdefg"};
+        for (String word : words) {
+            fault("location ", word + " 1 in;", SYNTAX);
+            fault("actor ", word + " 1;", SYNTAX);
+            fault("location a 1 in;scene ", word + " 1;", SYNTAX);
+            if (!word.equals("night")) {
+                fault("location a 1 in;scene a 1 ", word + ";", SYNTAX);
+            }
+        }
+        String[] names = {"a", "z", "abcdef", "zzzzzz", "ina", "i", "ou", "nights", "days", "sets", "moves", "drops",
+            "actors", "scenes", "holds"};
+        for (String name : names) {
+            FilmSchedule film = fine("location " + name + " 1 in;scene " + name + " 1;", 2);
+            Check.due("9: locationNamed " + name, film.locationNamed(Check.letters(name)), 0);
+        }
+    }
+
+    private static void rangeErrors() {
+        String[] large = {"10000", "010000", "99999", "65536", "4294967296", "4294967297", "18446744073709551617",
+            "99999999999999999999999999999999999999999999999999999999"};
+        for (String number : large) {
+            fault("location a ", number + " in;", RANGE);
+            fault("actor p ", number + ";", RANGE);
+            fault(CAST + "scene a ", number + ";", RANGE);
+            fault("set move ", number + ";", RANGE);
+            fault("set capacity ", number + ";", RANGE);
+            fault("set hold ", number + ";", RANGE);
+            fault("set drop ", number + ";", RANGE);
+            fault(CAST + "scene a 1;day ", number + " 0;", RANGE);
+            fault(CAST + "scene a 1;day 0 ", number + ";", RANGE);
+        }
+        fault(CAST + "scene a ", "0;", RANGE);
+        fault(CAST + "scene a ", "61;", RANGE);
+        fault("set capacity ", "0;", RANGE);
+        fault("set capacity ", "100;", RANGE);
+        fault("set hold ", "101;", RANGE);
+        fault("set drop ", "0;", RANGE);
+        fault("set drop ", "13;", RANGE);
+        fault(CAST + "scene a 1;day ", "12 0;", RANGE);
+        fault(CAST + "scene a 1;day 0 ", "1;", RANGE);
+        fault(CAST + "scene a 1;day 0 0 ", "1;", RANGE);
+        fault("day 0 ", "0;", RANGE);
+    }
+
+    private static void nameErrors() {
+        fault(CAST + "scene ", "c 1;", NAME);
+        fault(CAST + "scene ", "p 1;", NAME);
+        fault(CAST + "scene a 1 ", "r;", NAME);
+        fault(CAST + "scene a 1 p ", "b;", NAME);
+        fault(CAST + "scene a 1 night ", "a;", NAME);
+        fault("location ab 1 in;scene ", "a 1;", NAME);
+        fault("scene ", "a 1;location a 1 in;", NAME);
+    }
+
+    private static void duplicateErrors() {
+        fault("location a 1 in;location ", "a 1 in;", DUPLICATE);
+        fault("location a 1 in;actor ", "a 1;", DUPLICATE);
+        fault("actor a 1;location ", "a 1 in;", DUPLICATE);
+        fault("actor a 1;actor ", "a 1;", DUPLICATE);
+        fault(CAST + "scene a 1 p ", "p;", DUPLICATE);
+        fault(CAST + "scene a 1 p q ", "p;", DUPLICATE);
+        fault("set capacity 1;set ", "capacity 1;", DUPLICATE);
+        fault("set move 1;set ", "move 1;", DUPLICATE);
+        fault("set hold 1;set drop 3;set ", "hold 1;", DUPLICATE);
+        fault("set drop 1;actor p 1;set ", "drop x;", DUPLICATE);
+        fault(CAST + "scene a 1;day 0 0 ", "0;", DUPLICATE);
+        fault(CAST + "scene a 1;day 0 0;day 1 ", "0;", DUPLICATE);
+        fault(CAST + "scene a 1;scene b 1;day 0 0;day 1 1;day 0 ", "1;", DUPLICATE);
+    }
+
+    private static void orderErrors() {
+        fault(CAST + "scene a 1;day 0 0;", "set move 1;", ORDER);
+        fault(CAST + "scene a 1;day 0 0;actor r 1;", "set capacity 1;", ORDER);
+        fault("set move 1;" + CAST + "scene a 1;day 0 0;", "set move 1;", ORDER);
+        fault(CAST + "scene a 1;day 0 0;", "set x", ORDER);
+    }
+
+    private static void stateErrors() {
+        String scenes = "set capacity 10;" + CAST + "scene a 4 p;scene b 4 p;scene a 4 night p;scene a 6;scene a 7 q;"
+            + "scene b 11;scene b 2 p q;";
+        fault(scenes + "day 0 0 ", "1;", STATE);
+        fault(scenes + "day 0 0;day 0 ", "2;", STATE);
+        fault(scenes + "day 0 0 3;day 1 ", "5;", STATE);
+        fault(scenes + "day 0 0 ", "4;", STATE);
+        fault(scenes + "day 0 2;day 1 ", "0;", STATE);
+        fault(scenes + "day 1 0;day 0 ", "2;", STATE);
+        fault(scenes + "day 0 2;day 2 0;day 1 ", "6;", STATE);
+        fine(scenes + "day 0 2;day 1 4;", 14);
+        fine(scenes + "day 0 2;day 2 0;day 11 1 6;", 15);
+        fine(scenes + "day 0 0;day 1 2;", 14);
+        fine(scenes + "day 11 2;day 0 0 3;", 14);
+    }
+
+    private static void countErrors() {
+        String four = "location a 1 in;location b 1 in;location c 1 in;location d 1 in;";
+        fine(four, 4);
+        fault(four, "location e 1 in;", COUNT);
+        fault(four, "location", COUNT);
+        String six = "actor p 1;actor q 1;actor r 1;actor s 1;actor t 1;actor u 1;";
+        fine(four + six, 10);
+        fault(six, "actor v 1;", COUNT);
+        fault(six + four, "actor ;", COUNT);
+        String scenes = "";
+        for (int scene = 0; scene < 14; scene++) {
+            scenes += "scene d 3 p q r s t u;";
+        }
+        fine(four + six + scenes, 24);
+        fault(four + six + scenes, "scene d 3;", COUNT);
+        fine(four + six + scenes + "day 0 0 1 2 3 4 5 6 7;day 1 8 9 10 11 12 13;", 26);
+        fault(four + six + scenes + "day 0 0 1 2 3 4 5 6 7 ", "8;", STATE);
+    }
+
+    private static void firstErrorCounts() {
+        fault("location a ", "10000 x", RANGE);
+        fault("location a 1 in;actor ", "a x", DUPLICATE);
+        fault("actor p ", "10000;actor p 1;", RANGE);
+        fault(CAST + "scene ", "x 0 x x;", NAME);
+        fault(CAST + "scene a ", "0 x", RANGE);
+        fault("actor p 1;set ", "p 1;?", SYNTAX);
+        fault("actor p 1 ", "?;x", SYNTAX);
+    }
+
+    private static void failureLeavesAllButTheBuffer() {
+        String text = "set capacity 30;" + CAST + "scene a 4 p;scene b 5 q;day 3 0;";
+        FilmSchedule film = Check.film(text);
+        film.put(1, 4);
+        int cost = film.cost();
+        Check.due("3: a text with an error", Check.load(film, "set capacity 9;actor x 7;location y 8 in;scene y 9 x;day 7 0;?"),
+            SYNTAX);
+        Check.due("3: the buffer is empty", film.load(1), FilmSchedule.BAD_VALUE);
+        Check.due("3: capacity stays", film.getSetting(FilmSchedule.CAPACITY), 30);
+        Check.due("3: locations stay", film.locationCount(), 2);
+        Check.due("3: names stay", film.locationNamed(Check.letters("b")), 1);
+        Check.due("3: names stay", film.actorNamed(Check.letters("x")), FilmSchedule.NOT_FOUND);
+        Check.due("3: actors stay", film.actorCount(), 2);
+        Check.due("3: scenes stay", film.sceneCount(), 2);
+        Check.due("3: days stay", film.dayOf(0), 3);
+        Check.due("3: cost stays", film.cost(), cost);
+        Check.due("3: changes stay", film.undo(), 0);
+        Check.due("3: a change is undone", film.dayOf(1), FilmSchedule.NOT_FOUND);
+    }
+
+    private static void successReplacesAll() {
+        FilmSchedule film = Check.film("set capacity 30;set move 1;set hold 2;set drop 3;" + CAST
+            + "actor r 5;scene a 4 p;scene b 5 q;scene a 1;day 3 0;day 5 1;");
+        film.setSetting(FilmSchedule.MOVE, 8);
+        film.take(0);
+        Check.due("3: second load", Check.load(film, "actor x 7;location y 8 out;scene y 9 night x;"), 3);
+        Check.due("3: undoCount", film.undoCount(), 0);
+        Check.due("3: undo", film.undo(), FilmSchedule.NOT_FOUND);
+        Check.due("3: capacity", film.getSetting(FilmSchedule.CAPACITY), 24);
+        Check.due("3: move", film.getSetting(FilmSchedule.MOVE), 100);
+        Check.due("3: hold", film.getSetting(FilmSchedule.HOLD), 50);
+        Check.due("3: drop", film.getSetting(FilmSchedule.DROP), 4);
+        Check.due("3: locations", film.locationCount(), 1);
+        Check.due("3: actors", film.actorCount(), 1);
+        Check.due("3: scenes", film.sceneCount(), 1);
+        Check.due("3: the day of the scene", film.dayOf(0), FilmSchedule.NOT_FOUND);
+        Check.due("3: span", film.span(), 0);
+        Check.due("3: an old name", film.locationNamed(Check.letters("a")), FilmSchedule.NOT_FOUND);
+        Check.due("3: a new name", film.locationNamed(Check.letters("y")), 0);
+        Check.due("3: outdoors", film.locationProperty(0, 1), 0);
+    }
+
+    private static void errorPosition() {
+        FilmSchedule film = new FilmSchedule();
+        Check.due("4: none yet", film.errorPosition(), FilmSchedule.NOT_FOUND);
+        film.load(5);
+        Check.due("4: BAD_VALUE does not count", film.errorPosition(), FilmSchedule.NOT_FOUND);
+        Check.load(film, "actor p x;");
+        Check.due("4: an error", film.errorPosition(), 8);
+        film.load(5);
+        Check.due("4: BAD_VALUE leaves it", film.errorPosition(), 8);
+        Check.load(film, "?");
+        Check.due("4: the latest", film.errorPosition(), 0);
+        film.load(0);
+        Check.due("4: no error", film.errorPosition(), FilmSchedule.NOT_FOUND);
+    }
+
+    private static FilmSchedule fine(String text, int answer) {
+        FilmSchedule film = new FilmSchedule();
+        Check.due("3: load of " + text, Check.load(film, text), answer);
+        Check.due("4: errorPosition of " + text, film.errorPosition(), FilmSchedule.NOT_FOUND);
+        return film;
+    }
+
+    /** The error is at the first sign of the second part. */
+    private static void fault(String before, String behind, int code) {
+        int[] rests = code == SYNTAX && behind.isEmpty() ? new int[] {0} : new int[] {0, 1};
+        for (int rest : rests) {
+            FilmSchedule film = new FilmSchedule();
+            char[] more = new char[rest];
+            Arrays.fill(more, '?');
+            String text = before + behind + new String(more);
+            Check.due("3: load of " + text, Check.load(film, text), code);
+            Check.due("4: errorPosition of " + text, film.errorPosition(), before.length());
+        }
+    }
+}
