@@ -42,10 +42,10 @@ public final class ModelTest {
         void play() {
             loadText(new Texts(source).text(0));
             while (calls < 480) {
-                int kind = source.nextInt(40);
+                int kind = source.nextInt(120);
                 if (kind == 0) {
                     loadText(new Texts(source).text(source.nextInt(3)));
-                } else if (kind < 14) {
+                } else if (kind < 40) {
                     change();
                 } else {
                     ask();
@@ -65,24 +65,29 @@ public final class ModelTest {
         }
 
         private void change() {
-            int a = pick(14);
+            int a = pick(Math.max(1, model.scenes.size()));
             int b = pick(12);
             calls++;
-            switch (source.nextInt(12)) {
+            switch (source.nextInt(16)) {
                 case 0: due("take " + a, film.take(a), model.take(a)); break;
-                case 1: case 2: due("exchange " + b + ", " + a, film.exchange(b, a), model.exchange(b, a)); break;
-                case 3: if (source.nextInt(4) == 0) { due("fill", film.fill(), model.fill()); } break;
+                case 1: case 2: exchange(b, pick(12)); break;
+                case 3: if (source.nextInt(3) == 0) { due("fill", film.fill(), model.fill()); } break;
                 case 4: if (source.nextInt(4) == 0) { due("useBestOrder", film.useBestOrder(), model.useBestOrder()); } break;
                 case 5: case 6: setting(); break;
-                case 7: case 8: due("undo", film.undo(), model.undo()); break;
+                case 7: due("undo", film.undo(), model.undo()); break;
                 default: due("put " + a + ", " + b, film.put(a, b), model.put(a, b)); break;
             }
             due("undoCount", film.undoCount(), model.changes.size());
         }
 
+        private void exchange(int one, int other) {
+            due("exchange " + one + ", " + other, film.exchange(one, other), model.exchange(one, other));
+        }
+
         private void setting() {
             int setting = source.nextInt(6) - 1;
-            int[] values = {source.nextInt(101), source.nextInt(10001), source.nextInt(103) - 1, source.nextInt(14)};
+            int[] values = {source.nextInt(source.nextInt(3) == 0 ? 101 : 20), source.nextInt(source.nextBoolean() ? 10001 : 200),
+                source.nextInt(103) - 1, source.nextInt(source.nextBoolean() ? 14 : 5)};
             int value = setting >= 0 && setting < 4 ? values[setting] : 5;
             due("setSetting " + setting + ", " + value, film.setSetting(setting, value), model.setSetting(setting, value));
         }
@@ -858,6 +863,9 @@ public final class ModelTest {
         private static final String[] ODD = {"location", "night", "in", "out", "capacity", "drop", "abcdefg", "?", "A", ";",
             "0", "13", "61", "10000", "99999999999", "set", "day", "scene", "actor", "\u00e9", "p", "a", "move", "-"};
 
+        private static final String[] ODD_NUMBERS = {"0", "1", "2", "11", "12", "13", "14", "60", "61", "99", "100", "101",
+            "9999", "10000", "000000000005", "4294967297"};
+
         private final Random source;
 
         Texts(Random source) {
@@ -868,7 +876,7 @@ public final class ModelTest {
             List<String> words = new ArrayList<>();
             for (int setting = 0; setting < 4; setting++) {
                 if (source.nextInt(3) == 0) {
-                    int[] values = {10 + source.nextInt(50), source.nextInt(300), source.nextInt(101), 1 + source.nextInt(6)};
+                    int[] values = {8 + source.nextInt(30), source.nextInt(300), source.nextInt(101), 1 + source.nextInt(6)};
                     add(words, "set " + Parser.SETTINGS.get(setting) + " " + values[setting] + " ;");
                 }
             }
@@ -876,18 +884,22 @@ public final class ModelTest {
             for (int location = 0; location < locations; location++) {
                 add(words, "location " + NAMES[location] + " " + pay() + (source.nextInt(3) > 0 ? " out ;" : " in ;"));
             }
-            int actors = source.nextInt(faults > 0 ? 8 : 7);
+            int actors = source.nextInt(3) + source.nextInt(faults > 0 ? 6 : 5);
             for (int actor = 0; actor < actors; actor++) {
                 add(words, "actor " + (actor < 5 ? NAMES[4 + actor] : actor == 5 ? "house" : "beach") + " " + pay() + " ;");
             }
-            int scenes = source.nextInt(faults > 0 && source.nextInt(8) == 0 ? 16 : 15);
+            int scenes = source.nextInt(7) + source.nextInt(faults > 0 && source.nextInt(3) == 0 ? 10 : 9);
             int nights = source.nextInt(3);
             for (int scene = 0; scene < scenes; scene++) {
                 add(words, scene(locations, actors, nights));
             }
             days(words, scenes, faults);
+            if (faults > 0 && source.nextInt(5) == 0) {
+                add(words, source.nextBoolean() ? "set move 3 ;" : "actor e 1 ;");
+            }
             for (int fault = 0; fault < faults; fault++) {
-                words.set(source.nextInt(words.size()), odd(words));
+                int at = source.nextInt(words.size());
+                words.set(at, odd(words, words.get(at)));
             }
             return join(words);
         }
@@ -903,7 +915,7 @@ public final class ModelTest {
         }
 
         private String scene(int locations, int actors, int nights) {
-            StringBuilder text = new StringBuilder("scene " + NAMES[source.nextInt(locations)] + " " + (1 + source.nextInt(12)));
+            StringBuilder text = new StringBuilder("scene " + NAMES[source.nextInt(locations)] + " " + (1 + source.nextInt(9)));
             text.append(source.nextInt(4) < nights ? " night" : "");
             for (int actor = 0; actor < actors; actor++) {
                 if (source.nextInt(4) == 0) {
@@ -917,7 +929,13 @@ public final class ModelTest {
             return source.nextInt(4) == 0 ? source.nextInt(10000) : source.nextInt(60);
         }
 
-        private String odd(List<String> words) {
+        private String odd(List<String> words, String old) {
+            if (old.matches("[0-9]+") && source.nextInt(3) > 0) {
+                return ODD_NUMBERS[source.nextInt(ODD_NUMBERS.length)];
+            }
+            if (Arrays.asList(NAMES).contains(old) && source.nextInt(3) > 0) {
+                return NAMES[source.nextInt(NAMES.length)];
+            }
             return source.nextInt(3) == 0 ? words.get(source.nextInt(words.size())) : ODD[source.nextInt(ODD.length)];
         }
 
