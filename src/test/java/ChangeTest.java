@@ -9,6 +9,7 @@ public final class ChangeTest {
         putWhereItIs();
         wrongPuts();
         take();
+        fourteenScenes();
         exchange();
         exchangeOfAFreeDay();
         exchangeInsideATurnaround();
@@ -74,6 +75,21 @@ public final class ChangeTest {
             Check.due("43: scene " + wrong, film.take(wrong), FilmSchedule.NOT_FOUND);
         }
         Check.due("43: undoCount()", film.undoCount(), 2);
+    }
+
+    private static void fourteenScenes() {
+        String scenes = "";
+        for (int scene = 0; scene < 14; scene++) {
+            scenes += "scene a 1;";
+        }
+        FilmSchedule film = Check.film("location a 1 in;" + scenes);
+        Check.due("42: put(13, 11)", film.put(13, 11), 1);
+        Check.due("42: put(14, 11)", film.put(14, 11), FilmSchedule.NOT_FOUND);
+        Check.due("43: take(14)", film.take(14), FilmSchedule.NOT_FOUND);
+        Check.due("43: take(13)", film.take(13), 0);
+        Check.due("45: fill()", film.fill(), 14);
+        Check.dueIndexException("15: dayOf 14", () -> film.dayOf(14));
+        Check.dueIndexException("30: reasonFor 14", () -> film.reasonFor(14, 0));
     }
 
     private static void exchange() {

@@ -12,9 +12,11 @@ public final class LoadTest {
         feedIsFull();
         bytesOfAFeed();
         lengthOfLoad();
+        textEndsAtItsLength();
         statements();
         tokens();
         syntaxErrors();
+        wordsWithAnotherLetter();
         namesThatAreNone();
         rangeErrors();
         nameErrors();
@@ -73,6 +75,35 @@ public final class LoadTest {
         Check.due("3: the buffer is empty then", film.load(1), FilmSchedule.BAD_VALUE);
         Check.due("3: load(0)", film.load(0), 0);
         Check.due("3: load(0) replaces the production", film.actorCount(), 0);
+    }
+
+    /** What stands in the buffer behind the text belongs to no token. */
+    private static void textEndsAtItsLength() {
+        String text = CAST + "set move 123;scene a 12 night p;day 10 0;";
+        FilmSchedule film = new FilmSchedule();
+        for (int length = 0; length <= text.length(); length++) {
+            String part = text.substring(0, length);
+            boolean whole = part.isEmpty() || part.endsWith(";");
+            Check.feedText(film, text);
+            int got = film.load(length);
+            if (whole) {
+                Check.due("3: load of " + part, got, part.chars().filter(sign -> sign == ';').count());
+                Check.due("4: errorPosition of " + part, film.errorPosition(), -1);
+            } else {
+                FilmSchedule other = new FilmSchedule();
+                Check.due("3: load of " + part, got, Check.load(other, part));
+                Check.due("4: errorPosition of " + part, film.errorPosition(), other.errorPosition());
+            }
+        }
+        Check.feedText(film, "actor p 12;");
+        Check.due("3: load(9)", film.load(9), SYNTAX);
+        Check.due("4: an integer is cut", film.errorPosition(), 9);
+        Check.feedText(film, "location a 1 inner;");
+        Check.due("3: load(15)", film.load(15), SYNTAX);
+        Check.due("4: a word is cut", film.errorPosition(), 15);
+        Check.feedText(film, "actor p 1;");
+        Check.due("3: load(9)", film.load(9), SYNTAX);
+        Check.due("4: the semicolon is cut", film.errorPosition(), 9);
     }
 
     private static void statements() {
@@ -165,6 +196,25 @@ public final class LoadTest {
         fault("actor p 1", "{", SYNTAX);
         fault("actor p 1", "/", SYNTAX);
         fault("actor p 1", ":", SYNTAX);
+    }
+
+    private static void wordsWithAnotherLetter() {
+        String[][] words = {{"", "location", " a 1 in;"}, {"", "actor", " p 1;"}, {CAST, "scene", " a 1;"},
+            {"", "set", " move 1;"}, {CAST + "scene a 1;", "day", " 0 0;"}, {"location a 1 ", "in", ";"},
+            {"location a 1 ", "out", ";"}, {"set ", "capacity", " 5;"}, {"set ", "move", " 5;"}, {"set ", "hold", " 5;"},
+            {"set ", "drop", " 5;"}};
+        for (String[] word : words) {
+            fine(word[0] + word[1] + word[2], (int) (word[0] + ";").chars().filter(sign -> sign == ';').count());
+            for (int place = 0; place < word[1].length(); place++) {
+                char other = word[1].charAt(place) == 'z' ? 'y' : 'z';
+                String wrong = word[1].substring(0, place) + other + word[1].substring(place + 1);
+                fault(word[0], wrong + word[2], SYNTAX);
+            }
+        }
+        for (String name : new String[] {"zight", "nighz", "zctor", "actoz", "zcene", "zet", "zay", "zn", "zut", "zove",
+            "zold", "zrop"}) {
+            fine("actor " + name + " 1;location a 1 in;scene a 1 " + name + ";", 3);
+        }
     }
 
     private static void namesThatAreNone() {
