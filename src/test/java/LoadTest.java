@@ -24,6 +24,7 @@ public final class LoadTest {
         orderErrors();
         stateErrors();
         countErrors();
+        oneMoreThanAll();
         firstErrorCounts();
         failureLeavesAllButTheBuffer();
         successReplacesAll();
@@ -329,6 +330,23 @@ public final class LoadTest {
         fault(four + six + scenes, "scene d 3;", COUNT);
         fine(four + six + scenes + "day 0 0 1 2 3 4 5 6 7;day 1 8 9 10 11 12 13;", 26);
         fault(four + six + scenes + "day 0 0 1 2 3 4 5 6 7 ", "8;", STATE);
+    }
+
+    private static void oneMoreThanAll() {
+        String six = "location a 1 in;actor p 1;actor q 1;actor r 1;actor s 1;actor t 1;actor u 1;";
+        fault(six + "scene a 1 p q r s t u ", "p;", DUPLICATE);
+        fault(six + "scene a 1 p q r s t u ", "x;", NAME);
+        fault(six + "scene a 1 night u t s r q p ", "night;", SYNTAX);
+        String scenes = "";
+        for (int scene = 0; scene < 14; scene++) {
+            scenes += "scene a 1;";
+        }
+        String all = six + scenes + "day 0 0 1 2 3 4 5 6 7 8 9 10 11 12 13";
+        fine(all + ";", 22);
+        fault(all + " ", "7;", DUPLICATE);
+        fault(all + " ", "14;", RANGE);
+        fault(all + " ", "p;", SYNTAX);
+        fault(all, "", SYNTAX);
     }
 
     private static void firstErrorCounts() {
