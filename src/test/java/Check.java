@@ -71,6 +71,63 @@ final class Check {
         return letters;
     }
 
+    /** Everything that can be asked without a parameter out of range, but for errorPosition and the buffer. */
+    static String state(FilmSchedule film) {
+        StringBuilder state = new StringBuilder();
+        for (int setting = 0; setting < 4; setting++) {
+            state.append(film.getSetting(setting)).append(' ');
+        }
+        for (int location = 0; location < film.locationCount(); location++) {
+            state.append(film.locationProperty(location, 0)).append(film.locationProperty(location, 1) == 1 ? "in " : "out ");
+        }
+        for (int actor = 0; actor < film.actorCount(); actor++) {
+            state.append("fee ").append(film.feeOf(actor)).append(" cost ").append(film.actorCost(actor)).append(' ');
+        }
+        for (int scene = 0; scene < film.sceneCount(); scene++) {
+            state.append('(');
+            for (int what = 0; what < 4; what++) {
+                state.append(film.sceneProperty(scene, what)).append(' ');
+            }
+            state.append(')');
+        }
+        for (int day = 0; day < 12; day++) {
+            state.append(day).append(": ").append(film.scenesOn(day)).append(' ').append(film.locationOn(day)).append(' ')
+                .append(film.isNight(day)).append(' ').append(film.lengthOn(day)).append(' ').append(film.castOn(day));
+        }
+        return state.append(plan(film)).append(film.span()).append(' ').append(film.moves()).append(' ')
+            .append(film.cost()).append(' ').append(film.undoCount()).toString();
+    }
+
+    /** What changes can make different: the settings and the days of the scenes. */
+    static String plan(FilmSchedule film) {
+        StringBuilder plan = new StringBuilder(" settings");
+        for (int setting = 0; setting < 4; setting++) {
+            plan.append(' ').append(film.getSetting(setting));
+        }
+        plan.append(" days");
+        for (int scene = 0; scene < film.sceneCount(); scene++) {
+            plan.append(' ').append(film.dayOf(scene));
+        }
+        return plan.append(' ').toString();
+    }
+
+    static void dueText(String call, String got, String want) {
+        answers++;
+        if (!got.equals(want)) {
+            wrong++;
+            System.out.println(call + ": got " + got + ", due is " + want);
+        }
+    }
+
+    /** Both objects must answer alike now and after each undo; the undos are spent by this. */
+    static void dueAlike(String call, FilmSchedule film, FilmSchedule twin) {
+        dueText(call, state(film), state(twin));
+        for (int undos = 0; undos <= 12; undos++) {
+            due(call + ", undo()", film.undo(), twin.undo());
+            dueText(call + ", after undo()", plan(film), plan(twin));
+        }
+    }
+
     static void end() {
         System.out.println(wrong + " of " + answers + " answers are not as due");
         if (wrong != 0) {

@@ -11,10 +11,16 @@ public final class LoadTest {
         feed();
         feedIsFull();
         bytesOfAFeed();
+        textOfAllBytes();
+        loadOfNothing();
         lengthOfLoad();
         textEndsAtItsLength();
         statements();
         tokens();
+        everyByteBetweenTokens();
+        everyByteBeforeAWord();
+        longIntegers();
+        edgesReadBack();
         syntaxErrors();
         wordsWithAnotherLetter();
         namesThatAreNone();
@@ -26,6 +32,8 @@ public final class LoadTest {
         countErrors();
         oneMoreThanAll();
         firstErrorCounts();
+        errorListedFirst();
+        forgetsWhatAFailedLoadGave();
         failureLeavesAllButTheBuffer();
         successReplacesAll();
         errorPosition();
@@ -63,6 +71,39 @@ public final class LoadTest {
             Check.due("2: a byte 128 at " + place, film.load(20), SYNTAX);
             Check.due("4: a byte 128 at " + place, film.errorPosition(), place);
         }
+    }
+
+    /** The buffer's last byte is read; if the text ends too early, the position is its length. */
+    private static void textOfAllBytes() {
+        String text = "\n".repeat(890) + "actor p 1;";
+        fine(text, 1);
+        faultAt(899, "\n".repeat(899) + "?", SYNTAX);
+        fault(" ".repeat(891) + "actor p 1", "", SYNTAX);
+        fault("actor p 1" + " ".repeat(891), "", SYNTAX);
+        faultAt(8, "actor p " + "9".repeat(892), RANGE);
+        faultAt(0, "a".repeat(900), SYNTAX);
+        FilmSchedule film = new FilmSchedule();
+        Check.feedText(film, text);
+        Check.due("3: load(899)", film.load(899), SYNTAX);
+        Check.due("4: errorPosition()", film.errorPosition(), 899);
+        Check.due("3: the buffer is empty", film.feed(0, 0, 0, 0, 0), 20);
+    }
+
+    /** A length of 0 is allowed, with an empty buffer and with another one, which is emptied. */
+    private static void loadOfNothing() {
+        FilmSchedule film = new FilmSchedule();
+        Check.due("3: load(0) of an empty buffer", film.load(0), 0);
+        Check.due("4: errorPosition()", film.errorPosition(), -1);
+        Check.due("3: load(1) of an empty buffer", film.load(1), FilmSchedule.BAD_VALUE);
+        Check.load(film, CAST + "scene a 1 p;day 0 0;");
+        film.take(0);
+        Check.feedText(film, "actor p ?");
+        Check.due("3: load(0) of 20 bytes", film.load(0), 0);
+        Check.due("3: load(1) of none", film.load(1), FilmSchedule.BAD_VALUE);
+        Check.due("3: locationCount()", film.locationCount(), 0);
+        Check.due("3: sceneCount()", film.sceneCount(), 0);
+        Check.due("3: undoCount()", film.undoCount(), 0);
+        Check.due("2: feed begins again", film.feed(0, 0, 0, 0, 0), 20);
     }
 
     private static void lengthOfLoad() {
@@ -129,6 +170,80 @@ public final class LoadTest {
         Check.due("3: night", film.sceneProperty(0, 2), 1);
         film = fine("set move 00000000000000000000000000000000000000000000000000000000000000000000009998;", 1);
         Check.due("3: many zeros", film.getSetting(FilmSchedule.MOVE), 9998);
+    }
+
+    /** Spaces (32) and newlines (10) may stand between tokens, and of the 254 other bytes none. */
+    private static void everyByteBetweenTokens() {
+        for (int sign = 0; sign < 256; sign++) {
+            String before = "actor p 1";
+            if (sign == ' ' || sign == '\n' || sign >= '0' && sign <= '9') {
+                fine(before + (char) sign + ";", 1);
+            } else {
+                // Behind a semicolon the next one begins a statement.
+                int shift = sign == ';' ? 1 : 0;
+                faultAt(before.length() + shift, before + (char) sign + ";", SYNTAX);
+            }
+        }
+    }
+
+    private static void everyByteBeforeAWord() {
+        for (int sign = 0; sign < 256; sign++) {
+            if (sign == ' ' || sign == '\n') {
+                fine((char) sign + "actor p 1;", 1);
+            } else {
+                faultAt(0, (char) sign + "actor p 1;", SYNTAX);
+            }
+            boolean letter = sign >= 'a' && sign <= 'z';
+            if (letter) {
+                fine("actor p" + (char) sign + " 1;", 1);
+            } else if (sign == ' ' || sign == '\n' || sign >= '0' && sign <= '9') {
+                fine("actor p" + (char) sign + (sign <= ' ' ? "1;" : ";"), 1);
+            } else {
+                fault("actor p", (char) sign + " 1;", SYNTAX);
+            }
+        }
+    }
+
+    /** "integers .. of any length": zeros in front do not count, and no number comes round to a small one. */
+    private static void longIntegers() {
+        FilmSchedule film = fine("actor p " + "0".repeat(887) + "9999;", 1);
+        Check.due("13: feeOf(0)", film.feeOf(0), 9999);
+        fault("actor p ", "0".repeat(885) + "10000;", RANGE);
+        fine("actor p " + "0".repeat(891) + ";", 1);
+        java.math.BigInteger two = java.math.BigInteger.TWO;
+        for (int power : new int[] {8, 16, 31, 32, 63, 64, 65, 128, 1000}) {
+            for (int more = 0; more < 3; more++) {
+                String number = two.pow(power).add(java.math.BigInteger.valueOf(more)).toString();
+                fault("set drop ", number + ";", RANGE);
+                fault(CAST + "scene a ", number + ";", RANGE);
+                fault(CAST + "scene a 1;scene a 1;scene a 1;day ", number + " 0;", RANGE);
+                fault(CAST + "scene a 1;scene a 1;scene a 1;day 0 ", number + ";", RANGE);
+            }
+        }
+    }
+
+    /** The least and the most of each range, as they are read back. */
+    private static void edgesReadBack() {
+        FilmSchedule film = fine("set capacity 1;set move 0;set hold 0;set drop 1;location a 0 in;actor p 0;scene a 1;day 0 0;", 8);
+        int[] least = {1, 0, 0, 1};
+        int[] most = {99, 9999, 100, 12};
+        for (int setting = 0; setting < 4; setting++) {
+            Check.due("11: least " + setting, film.getSetting(setting), least[setting]);
+        }
+        Check.due("12: least rate", film.locationProperty(0, 0), 0);
+        Check.due("13: least fee", film.feeOf(0), 0);
+        Check.due("14: least length", film.sceneProperty(0, 1), 1);
+        Check.due("14: least cast", film.sceneProperty(0, 3), 0);
+        Check.due("15: least day", film.dayOf(0), 0);
+        film = fine("set capacity 99;set move 9999;set hold 100;set drop 12;location a 9999 out;actor p 9999;"
+            + "scene a 60 night p;day 11 0;", 8);
+        for (int setting = 0; setting < 4; setting++) {
+            Check.due("11: most " + setting, film.getSetting(setting), most[setting]);
+        }
+        Check.due("12: most rate", film.locationProperty(0, 0), 9999);
+        Check.due("13: most fee", film.feeOf(0), 9999);
+        Check.due("14: most length", film.sceneProperty(0, 1), 60);
+        Check.due("15: most day", film.dayOf(0), 11);
     }
 
     private static void syntaxErrors() {
@@ -359,6 +474,52 @@ public final class LoadTest {
         fault("actor p 1 ", "?;x", SYNTAX);
     }
 
+    /** "If several errors apply to one token, the one listed first is reported." */
+    private static void errorListedFirst() {
+        String four = "location a 1 in;location b 1 in;location c 1 in;location d 1 in;";
+        String six = "actor p 1;actor q 1;actor r 1;actor s 1;actor t 1;actor u 1;";
+        String scene = CAST + "scene a 1 p;scene b 1 p;scene a 1;";
+        // SYNTAX_ERROR before all others: the token is not allowed here, whatever else is wrong with it.
+        fault(scene + "day 0 0 ", "set move 1;", SYNTAX);
+        fault(scene + "day 0 0;scene a 1 ", "set move 1;", SYNTAX);
+        fault(four + "actor ", "location;", SYNTAX);
+        fault(six + "location ", "actor 1 in;", SYNTAX);
+        fault("location a 1 in;" + "scene a 1;".repeat(13) + "scene a 1 ", "scene a 1;", SYNTAX);
+        fault(CAST + "scene a 1 ", "99999;", SYNTAX);
+        fault("set move 1;set ", "99999;", SYNTAX);
+        fault("actor p 1 ", "99999;", SYNTAX);
+        // RANGE_ERROR before DUPLICATE_ERROR and STATE_ERROR: a scene that is not declared is in no state.
+        fault(scene + "day 0 0 ", "3;", RANGE);
+        // NAME_ERROR before DUPLICATE_ERROR: the name of a location is no actor's, the first time already.
+        fault(CAST + "scene a 1 ", "b b;", NAME);
+        // DUPLICATE_ERROR before STATE_ERROR: scene 1 is scheduled and has another location than day 0.
+        fault(scene + "day 3 1;day 0 0 ", "1;", DUPLICATE);
+        fault("set capacity 1;" + CAST + "scene a 1;day 0 0 ", "0;", DUPLICATE);
+        // DUPLICATE_ERROR at a setting's name comes before a fault of its value, which stands behind it.
+        fault("set move 1;set ", "move 10000;", DUPLICATE);
+        // ORDER_ERROR at the word set comes before the name behind it, that was already given.
+        fault("set move 1;" + scene + "day 0 0;", "set move 1;", ORDER);
+        // COUNT_ERROR at the word comes before the name behind it, that is declared already.
+        fault(four, "location a 1 in;", COUNT);
+        fault(six, "actor p 1;", COUNT);
+    }
+
+    /** What a text with an error declared, gave or scheduled is no duplicate for the next one. */
+    private static void forgetsWhatAFailedLoadGave() {
+        String text = "set capacity 5;set move 1;set hold 2;set drop 3;" + CAST + "scene a 1 p;day 0 0;";
+        FilmSchedule film = new FilmSchedule();
+        for (int time = 0; time < 3; time++) {
+            Check.due("3: with an error", Check.load(film, text + "?"), SYNTAX);
+            Check.due("3: nothing is declared", film.sceneCount(), 0);
+            Check.due("3: nothing is given", film.getSetting(FilmSchedule.CAPACITY), 24);
+        }
+        Check.due("3: without", Check.load(film, text), 10);
+        Check.due("3: again", Check.load(film, text), 10);
+        Check.due("3: no settings", Check.load(film, CAST), 4);
+        Check.due("3: capacity is as at first", film.getSetting(FilmSchedule.CAPACITY), 24);
+        Check.due("3: set is allowed again", Check.load(film, text), 10);
+    }
+
     private static void failureLeavesAllButTheBuffer() {
         String text = "set capacity 30;" + CAST + "scene a 4 p;scene b 5 q;day 3 0;";
         FilmSchedule film = Check.film(text);
@@ -421,6 +582,12 @@ public final class LoadTest {
         Check.due("3: load of " + text, Check.load(film, text), answer);
         Check.due("4: errorPosition of " + text, film.errorPosition(), FilmSchedule.NOT_FOUND);
         return film;
+    }
+
+    private static void faultAt(int at, String text, int code) {
+        FilmSchedule film = new FilmSchedule();
+        Check.due("3: load of " + text, Check.load(film, text), code);
+        Check.due("4: errorPosition of " + text, film.errorPosition(), at);
     }
 
     /** The error is at the first sign of the second part. */
