@@ -77,13 +77,16 @@ final class Check {
         for (int setting = 0; setting < 4; setting++) {
             state.append(film.getSetting(setting)).append(' ');
         }
-        for (int location = 0; location < film.locationCount(); location++) {
+        int locations = film.locationCount();
+        for (int location = 0; location < locations; location++) {
             state.append(film.locationProperty(location, 0)).append(film.locationProperty(location, 1) == 1 ? "in " : "out ");
         }
-        for (int actor = 0; actor < film.actorCount(); actor++) {
+        int actors = film.actorCount();
+        for (int actor = 0; actor < actors; actor++) {
             state.append("fee ").append(film.feeOf(actor)).append(" cost ").append(film.actorCost(actor)).append(' ');
         }
-        for (int scene = 0; scene < film.sceneCount(); scene++) {
+        int scenes = film.sceneCount();
+        for (int scene = 0; scene < scenes; scene++) {
             state.append('(');
             for (int what = 0; what < 4; what++) {
                 state.append(film.sceneProperty(scene, what)).append(' ');
@@ -105,7 +108,8 @@ final class Check {
             plan.append(' ').append(film.getSetting(setting));
         }
         plan.append(" days");
-        for (int scene = 0; scene < film.sceneCount(); scene++) {
+        int scenes = film.sceneCount();
+        for (int scene = 0; scene < scenes; scene++) {
             plan.append(' ').append(film.dayOf(scene));
         }
         return plan.append(' ').toString();
@@ -122,8 +126,10 @@ final class Check {
     /** Both objects must answer alike now and after each undo; the undos are spent by this. */
     static void dueAlike(String call, FilmSchedule film, FilmSchedule twin) {
         dueText(call, state(film), state(twin));
-        for (int undos = 0; undos <= 12; undos++) {
-            due(call + ", undo()", film.undo(), twin.undo());
+        int left = 0;
+        for (int undos = 0; undos <= 12 && left >= 0; undos++) {
+            left = twin.undo();
+            due(call + ", undo()", film.undo(), left);
             dueText(call + ", after undo()", plan(film), plan(twin));
         }
     }

@@ -24,6 +24,7 @@ public final class FullTest {
         largestCost();
         largestHoldingCost();
         nothingToPay();
+        bestOrderOfAFullProduction();
         mostCalls();
         Check.end();
     }
@@ -264,6 +265,33 @@ public final class FullTest {
         Check.due("29: 0.99 is rounded down", film.holdingCost(), 0);
         film.setSetting(FilmSchedule.HOLD, 100);
         Check.due("26: a whole fee", film.actorCost(1), 3);
+    }
+
+    /** Six actors, fourteen scenes and seven days: the most that a search is made for. */
+    private static void bestOrderOfAFullProduction() {
+        StringBuilder text = new StringBuilder("set drop 12;location a 1 in;actor p 10;actor q 10;actor r 10;actor s 10;"
+            + "actor t 10;actor u 10;scene a 12 u;scene a 12 p q r s t;" + "scene a 12;".repeat(11) + "scene a 12 u;");
+        for (int day = 5; day <= 11; day++) {
+            text.append("day ").append(day).append(' ').append(day - 5).append(' ').append(day + 2).append(';');
+        }
+        FilmSchedule film = Check.film(text.toString());
+        // u works on the days 5 and 11 and is not held if they come together.
+        Check.due("28: cost()", film.cost(), 7 + 70 + 25);
+        Check.due("40: bestCost()", film.bestCost(), 7 + 70);
+        int[] order = {5, 11, 6, 7, 8, 9, 10};
+        for (int place = 0; place < 7; place++) {
+            Check.due("41: bestOrder " + place, film.bestOrder(place), order[place]);
+        }
+        Check.due("41: bestOrder 7", film.bestOrder(7), NOT_FOUND);
+        Check.due("46: useBestOrder()", film.useBestOrder(), 77);
+        int[] days = {0, 2, 3, 4, 5, 6, 1};
+        for (int scene = 0; scene < 14; scene++) {
+            Check.due("46: dayOf " + scene, film.dayOf(scene), days[scene % 7]);
+        }
+        Check.due("48: undo()", film.undo(), 0);
+        for (int scene = 0; scene < 14; scene++) {
+            Check.due("48: dayOf " + scene, film.dayOf(scene), 5 + scene % 7);
+        }
     }
 
     /** "An object is used for at most 512 calls": all of them are answered, the last one too. */

@@ -122,8 +122,8 @@ public final class LoadTest {
     /** What stands in the buffer behind the text belongs to no token. */
     private static void textEndsAtItsLength() {
         String text = CAST + "set move 123;scene a 12 night p;day 10 0;";
-        FilmSchedule film = new FilmSchedule();
         for (int length = 0; length <= text.length(); length++) {
+            FilmSchedule film = new FilmSchedule();
             String part = text.substring(0, length);
             boolean whole = part.isEmpty() || part.endsWith(";");
             Check.feedText(film, text);
@@ -137,6 +137,7 @@ public final class LoadTest {
                 Check.due("4: errorPosition of " + part, film.errorPosition(), other.errorPosition());
             }
         }
+        FilmSchedule film = new FilmSchedule();
         Check.feedText(film, "actor p 12;");
         Check.due("3: load(9)", film.load(9), SYNTAX);
         Check.due("4: an integer is cut", film.errorPosition(), 9);

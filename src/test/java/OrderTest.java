@@ -13,6 +13,11 @@ public final class OrderTest {
         sevenDaysAndEight();
         changesAreSeen();
         useBestOrder();
+        useBestOrderOfTheBest();
+        useBestOrderOfSeven();
+        daysAreFreeBetween();
+        nightsAlways();
+        longestGapOfAnOrder();
         Check.end();
     }
 
@@ -131,6 +136,67 @@ public final class OrderTest {
         for (int scene = 0; scene < 6; scene++) {
             Check.due("48: dayOf " + scene, film.dayOf(scene), before[scene]);
         }
+    }
+
+    /** "If a change makes nothing different, it is a change all the same." */
+    private static void useBestOrderOfTheBest() {
+        FilmSchedule film = Check.film(PLACES + "scene a 1;scene a 2;scene b 1;day 0 0;day 1 1;day 2 2;");
+        String plan = Check.plan(film);
+        Check.due("46: useBestOrder()", film.useBestOrder(), 140);
+        Check.due("46: useBestOrder()", film.useBestOrder(), 140);
+        Check.dueText("46: nothing is different", Check.plan(film), plan);
+        Check.due("46: are changes", film.undoCount(), 2);
+    }
+
+    private static void useBestOrderOfSeven() {
+        String text = PLACES;
+        for (int scene = 0; scene < 8; scene++) {
+            text += "scene " + (scene % 2 == 0 ? "a" : "b") + " 24;";
+        }
+        FilmSchedule film = Check.film(text + "day 5 6;day 6 5;day 7 4;day 8 3;day 9 2;day 10 1;day 11 0;");
+        orderIs(film, 40 + 60 + 100, 5, 7, 9, 11, 6, 8, 10);
+        Check.due("46: seven days", film.useBestOrder(), 200);
+        int[] days = {3, 6, 2, 5, 1, 4, 0, -1};
+        for (int scene = 0; scene < 8; scene++) {
+            Check.due("46: dayOf " + scene, film.dayOf(scene), days[scene]);
+        }
+        Check.due("46: span()", film.span(), 7);
+        film.put(7, 11);
+        Check.due("46: eight days", film.useBestOrder(), FilmSchedule.TOO_LARGE);
+        Check.due("46: span()", film.span(), 12);
+    }
+
+    /** The days of an order are thought to be the days 0, 1, 2 and so on: free days between them do not count. */
+    private static void daysAreFreeBetween() {
+        FilmSchedule film = Check.film("location a 0 in;actor p 10;scene a 1 p;scene a 1 p;day 0 0;day 3 1;");
+        Check.due("28: with two days of holding", film.cost(), 30);
+        orderIs(film, 20, 0, 3);
+        film = Check.film("location a 0 in;actor p 10;scene a 1 night p;scene a 1 p;day 0 0;day 2 1;");
+        // Without the free day between them, the day would be behind the night.
+        orderIs(film, 20, 2, 0);
+        Check.due("46: useBestOrder()", film.useBestOrder(), 20);
+        Check.due("46: the day is first", film.dayOf(1), 0);
+        Check.due("46: the night is second", film.dayOf(0), 1);
+    }
+
+    /** An order exists even if all of the cast is in every scene: all days, then all nights. */
+    private static void nightsAlways() {
+        String text = "set move 9999;location a 1 in;location b 1 in;actor p 1;";
+        for (int scene = 0; scene < 7; scene++) {
+            text += "scene " + (scene % 2 == 0 ? "a" : "b") + " 1" + (scene < 4 ? " night" : "") + " p;";
+        }
+        FilmSchedule film = Check.film(text + "day 8 0;day 9 1;day 10 2;day 11 3;day 0 4;day 1 5;day 2 6;");
+        // Two moves; 1 0 2 8 10 9 11 has two as well, and comes later.
+        orderIs(film, 14 + 2 * 9999, 0, 2, 1, 9, 11, 8, 10);
+    }
+
+    /** DROP counts in an order as in the table: a gap of one day is dropped by 1, and is held by 2. */
+    private static void longestGapOfAnOrder() {
+        String text = "set move 0;set hold 100;location a 0 in;actor p 10;actor q 10;"
+            + "scene a 1 p;scene a 1 q;scene a 1 p q;scene a 1 p;day 0 0;day 1 1;day 2 2;day 3 3;";
+        orderIs(Check.film("set drop 12;" + text), 50, 0, 3, 2, 1);
+        orderIs(Check.film("set drop 1;" + text), 50, 0, 1, 2, 3);
+        orderIs(Check.film("set drop 2;" + text), 50, 0, 3, 2, 1);
     }
 
     private static void orderIs(FilmSchedule film, int cost, int... days) {

@@ -12,6 +12,11 @@ public final class TableTest {
         statuses();
         firstOfTheLongestGaps();
         gapsAgainstDrop();
+        everyGapAgainstEveryDrop();
+        workOnNeighbours();
+        workOnAllDays();
+        workOnOneDay();
+        roundingDown();
         costs();
         movesOverFreeDays();
         wrongIndices();
@@ -131,6 +136,55 @@ public final class TableTest {
         film.setSetting(FilmSchedule.DROP, 10);
         statusesAre(film, 0, "WddddddddddW");
         Check.due("29: holdingCost()", film.holdingCost(), 0);
+    }
+
+    /** "if it has at least DROP days": each length of a gap with each DROP, and the days off around it. */
+    private static void everyGapAgainstEveryDrop() {
+        for (int drop = 1; drop <= 12; drop++) {
+            for (int gap = 0; gap <= 10; gap++) {
+                String days = "day 0 0;day " + (gap + 1) + " 1;";
+                FilmSchedule film = Check.film("set drop " + drop + ";location a 0 in;actor p 10;scene a 1 p;scene a 1 p;" + days);
+                String signs = "W" + (gap >= drop ? "d" : "h").repeat(gap) + "W" + ".".repeat(10 - gap);
+                statusesAre(film, 0, signs);
+                Check.due("26: actorCost " + signs, film.actorCost(0), 20 + (gap >= drop ? 0 : 5 * gap));
+            }
+        }
+    }
+
+    private static void workOnNeighbours() {
+        String text = "set drop 1;location a 0 in;actor p 10;scene a 1 p;scene a 1 p;scene a 1 p;";
+        statusesAre(Check.film(text + "day 0 0;day 1 1;day 2 2;"), 0, "WWW.........");
+        statusesAre(Check.film(text + "day 9 0;day 10 1;day 11 2;"), 0, ".........WWW");
+        statusesAre(Check.film(text + "day 0 0;day 2 1;day 4 2;"), 0, "WdWhW.......");
+        statusesAre(Check.film(text + "day 7 0;day 9 1;day 11 2;"), 0, ".......WdWhW");
+    }
+
+    private static void workOnAllDays() {
+        String days = "";
+        for (int day = 0; day < 12; day++) {
+            days += "day " + day + " " + day + ";";
+        }
+        statusesAre(Check.film("location a 0 in;actor p 10;" + "scene a 1 p;".repeat(12) + days), 0, "WWWWWWWWWWWW");
+    }
+
+    private static void workOnOneDay() {
+        for (int day = 0; day < 12; day++) {
+            FilmSchedule film = Check.film("set drop 1;location a 0 in;actor p 10;scene a 1 p;scene a 2 p;day " + day + " 0 1;");
+            statusesAre(film, 0, ".".repeat(day) + "W" + ".".repeat(11 - day));
+            Check.due("26: two scenes of a day are one day of work", film.actorCost(0), 10);
+        }
+    }
+
+    /** "the fee times HOLD divided by 100, rounded down, for each day HOLDING". */
+    private static void roundingDown() {
+        int[][] fees = {{0, 100, 0}, {1, 99, 0}, {1, 100, 1}, {2, 50, 1}, {3, 50, 1}, {199, 50, 99}, {200, 50, 100}, {99, 1, 0},
+            {100, 1, 1}, {199, 1, 1}, {9999, 0, 0}, {9999, 1, 99}, {9999, 99, 9899}, {9999, 100, 9999}};
+        for (int[] fee : fees) {
+            FilmSchedule film = Check.film("set hold " + fee[1] + ";location a 0 in;actor p " + fee[0]
+                + ";scene a 1 p;scene a 1 p;day 0 0;day 4 1;");
+            Check.due("29: fee " + fee[0] + ", hold " + fee[1], film.holdingCost(), 3 * fee[2]);
+            Check.due("26: fee " + fee[0] + ", hold " + fee[1], film.actorCost(0), 2 * fee[0] + 3 * fee[2]);
+        }
     }
 
     private static void costs() {
