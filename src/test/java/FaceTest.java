@@ -14,12 +14,16 @@ public final class FaceTest {
         + "reasonFor:int,int daysFor:int costWith:int,int bestDay:int fewestDays: waitingFor:int,boolean rainDays:int "
         + "rainLost:int rainDay:int,int worstRain: bestCost: bestOrder:int put:int,int take:int exchange:int,int fill: "
         + "useBestOrder: setSetting:int,int undo:";
+    private static final String THROWING = "locationProperty feeOf sceneProperty dayOf scenesOn locationOn isNight "
+        + "lengthOn castOn statusOf firstDay lastDay daysWith actorCost reasonFor daysFor costWith bestDay waitingFor";
     private static final String CONSTANTS = "CAPACITY=0 MOVE=1 HOLD=2 DROP=3 OFF=0 WORK=1 HOLDING=2 DROPPED=3 "
         + "NOT_FOUND=-1 BAD_VALUE=-2 FULL=-3 TOO_LARGE=-4 IMPOSSIBLE=-5 SYNTAX_ERROR=-11 RANGE_ERROR=-12 "
         + "NAME_ERROR=-13 DUPLICATE_ERROR=-14 ORDER_ERROR=-15 STATE_ERROR=-16 COUNT_ERROR=-17";
 
     public static void main(String[] args) throws IllegalAccessException {
         methods();
+        declaredExceptions();
+        namesOfPrivateMethods();
         constants();
         newObject();
         Check.end();
@@ -43,6 +47,40 @@ public final class FaceTest {
         Check.due("the methods " + got + " for " + want, got.equals(want), true);
         Check.due("the constructors", FilmSchedule.class.getDeclaredConstructors().length, 1);
         Check.due("the class is public and final", FilmSchedule.class.getModifiers(), Modifier.PUBLIC | Modifier.FINAL);
+    }
+
+    /** Each method with a throws clause in the document has it, and no other one. */
+    private static void declaredExceptions() {
+        Set<String> got = new TreeSet<>();
+        for (Method method : FilmSchedule.class.getMethods()) {
+            if (method.getDeclaringClass() == FilmSchedule.class && method.getExceptionTypes().length > 0) {
+                got.add(method.getName());
+                Check.dueText(method.getName() + " throws", Arrays.toString(method.getExceptionTypes()),
+                    "[" + IndexOutOfBoundsException.class + "]");
+            }
+        }
+        Set<String> want = new TreeSet<>(Arrays.asList(THROWING.split(" ")));
+        Check.due("the methods that throw " + got + " for " + want, got.equals(want), true);
+    }
+
+    /** LANGUAGE.md, rule 1. */
+    private static void namesOfPrivateMethods() {
+        Set<String> open = new TreeSet<>();
+        for (Method method : FilmSchedule.class.getMethods()) {
+            open.add(method.getName());
+        }
+        for (Class<?> inside : FilmSchedule.class.getDeclaredClasses()) {
+            Check.due(inside + " is static", Modifier.isStatic(inside.getModifiers()), true);
+            dueOtherNames(inside, open);
+        }
+        dueOtherNames(FilmSchedule.class, open);
+    }
+
+    private static void dueOtherNames(Class<?> type, Set<String> open) {
+        for (Method method : type.getDeclaredMethods()) {
+            boolean hidden = Modifier.isPrivate(method.getModifiers()) || type != FilmSchedule.class;
+            Check.due(method + " has a name of the face", hidden && open.contains(method.getName()), false);
+        }
     }
 
     private static void constants() throws IllegalAccessException {
